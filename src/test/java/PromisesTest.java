@@ -224,6 +224,13 @@ public final class PromisesTest {
         due.is(3, () -> x.drop());
         due.is(4, () -> x.repeat(2));
         due.same("1100", sentRow(x));
+        x.mark(0);
+        due.is(1, () -> x.errors());
+        due.same("0100", comesRow(x));
+        due.same("20", decodedRow(x));
+        due.is(3, () -> x.drop());
+        due.same("00", comesRow(x));
+        due.same("00", decodedRow(x));
     }
 
     private void channel() {
@@ -235,7 +242,11 @@ public final class PromisesTest {
         due.is(0, () -> x.bit(0, 1));
         due.is(1, () -> x.channel(1, 839, 1, 0));
         due.is(1, () -> x.bit(0, 1));
-        due.is(1, () -> x.channel(3, 500, 1, Integer.MIN_VALUE));
+        due.is(1, () -> x.channel(1, 0, 1, 0));
+        due.same("0000000000", comesRow(x));
+        due.is(1, () -> x.channel(3, 0, 0, 0));
+        due.same("0000000000", comesRow(x));
+        due.is(3, () -> x.channel(3, 500, 1, Integer.MIN_VALUE));
         due.same("0020202222", comesRow(x));
         due.is(3, () -> x.channel(3, 1, 0, 0));
         // x / 65536 is 0 at first, with the seed 0.
@@ -489,6 +500,14 @@ public final class PromisesTest {
         check.mark(0);
         check.mark(2);
         due.is(1, () -> check.ofStage(0, 4));
+        SoundingLine blocks = of(0, 4);
+        blocks.check(3, 1);
+        blocks.channel(3, 500, 1, 0);
+        // 00 20 20 22: a lost bit alone is damage, at the first place or in the rest.
+        due.is(3, () -> blocks.ofStage(0, 4));
+        blocks.channel(3, 500, 3, 0);
+        due.same("02220020", comesRow(blocks));
+        due.is(3, () -> blocks.ofStage(0, 4));
     }
 
     private void codes() {
@@ -518,6 +537,10 @@ public final class PromisesTest {
         due.is(4, () -> trails.distance(1));
         due.is(6, () -> trails.distance(2));
         due.is(2, () -> trails.distance(3));
+        SoundingLine far = new SoundingLine();
+        // The way with the fewest 1s puts in 16 bits.
+        far.trail(4, 19, 19, 0);
+        due.is(4, () -> far.distance(0));
         due.refusesPlace(() -> new SoundingLine().distance(0));
 
         due.about("promise 21");
@@ -609,6 +632,40 @@ public final class PromisesTest {
         due.is(digestOf(1, 1, 3, 1, 0,
             1, 1, 3, 1, 0, 2, 1, 0, 1, 0, 0, 0, 0, 0, 0, 0, 0,
             1, 1, 1, 1, 1, 1, 0, 1, 1, 0, 2), () -> block.digest());
+        SoundingLine all = of(181, 8);
+        due.is(digestOfAsks(all), () -> all.digest());
+        all.mark(6);
+        due.is(digestOfAsks(all), () -> all.digest());
+        all.repeat(3);
+        all.mark(8);
+        due.is(digestOfAsks(all), () -> all.digest());
+        all.check(11, 5);
+        all.weave(3, 4);
+        all.trail(2, 7, 5, 3);
+        all.channel(3, 100, 77, 0);
+        due.is(digestOfAsks(all), () -> all.digest());
+    }
+
+    private static long digestOfAsks(SoundingLine x) {
+        long d = digestOf(x.length(), x.stages(), x.sent(), x.hurt(), x.errors());
+        for (int stage = 0; stage < x.stages(); stage++) {
+            for (int what = 0; what < 5; what++) {
+                d = d * 31 + x.ofStage(stage, what);
+            }
+            d = d * 31 + x.distance(stage);
+            for (int ones = 0; ones < 11 && x.ofStage(stage, 0) == 1; ones++) {
+                d = d * 31 + x.words(stage, ones);
+            }
+        }
+        for (int i = 0; i < 2 * x.length(); i++) {
+            d = d * 31 + x.told(i / 2, i % 2);
+        }
+        for (int i = 0; i < 2 * x.sent(); i++) {
+            d = d * 31 + x.bit(i / 2, i % 2);
+        }
+        d = d * 31 + x.breaks(0);
+        d = d * 31 + x.breaks(5);
+        return d * 31 + x.weak();
     }
 
     private static long digestOf(int... numbers) {
