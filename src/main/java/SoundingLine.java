@@ -338,6 +338,7 @@ public final class SoundingLine {
         for (int seed = 1; seed <= runs; seed++) {
             supposedLine.become(NOISE, p, seed, 0);
             send(supposedLine, supposed);
+            chain.decode(supposed, coded);
             sum += errorsIn(supposed);
         }
         return (double) sum / (double) runs;
@@ -399,6 +400,7 @@ public final class SoundingLine {
     private void settle() {
         chain.code(coded);
         send(line, came);
+        chain.decode(came, coded);
     }
 
     private void send(Line through, Levels levels) {
@@ -406,7 +408,6 @@ public final class SoundingLine {
         arriving.copy(last(coded));
         through.harm(arriving);
         arriving.turnWhere(marked);
-        chain.decode(levels, coded);
     }
 
     // To change a mark turns what comes there: turned twice, it is as it was.

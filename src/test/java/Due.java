@@ -5,6 +5,8 @@ final class Due {
         Object answer();
     }
 
+    private static final int MOST_PRINTED = 40;
+
     private int wrong = 0;
     private String about = "";
 
@@ -28,6 +30,9 @@ final class Due {
     void same(String want, String got) {
         if (!want.equals(got)) {
             wrong++;
+            if (wrong > MOST_PRINTED) {
+                return;
+            }
             StackTraceElement[] trace = new Throwable().getStackTrace();
             String where = "";
             for (StackTraceElement element : trace) {

@@ -2,18 +2,27 @@ import java.lang.reflect.Constructor;
 import java.lang.reflect.Field;
 import java.lang.reflect.Method;
 import java.lang.reflect.Modifier;
+import java.util.ArrayList;
+import java.util.List;
 import java.util.Set;
 import java.util.TreeSet;
 
 /** The class shows the document's face, and nothing else of itself. */
 public final class FaceTest {
+    private static final String BOTH = " IllegalArgumentException IllegalStateException";
+    private static final String ARGUMENT = " IllegalArgumentException";
+    private static final String STATE = " IllegalStateException";
+    private static final String PLACE = " IndexOutOfBoundsException";
+
     private static final String[] FACE = {
-        "int write(int,int)", "int clear()", "int repeat(int)", "int block(int,int,int,int,int,int)",
-        "int check(int,int)", "int trail(int,int,int,int)", "int weave(int,int)", "int drop()",
-        "int channel(int,int,int,int)", "int mark(int)", "int length()", "int stages()",
-        "int ofStage(int,int)", "int sent()", "int bit(int,int)", "int told(int,int)", "int hurt()",
-        "int errors()", "int distance(int)", "int words(int,int)", "double rate()", "int errorsWith(int)",
-        "int weak()", "int breaks(int)", "double meanErrors(int,int)", "long digest()",
+        "int write(int,int)" + BOTH, "int clear()", "int repeat(int)" + BOTH,
+        "int block(int,int,int,int,int,int)" + BOTH, "int check(int,int)" + BOTH,
+        "int trail(int,int,int,int)" + BOTH, "int weave(int,int)" + BOTH, "int drop()" + STATE,
+        "int channel(int,int,int,int)" + ARGUMENT, "int mark(int)" + PLACE, "int length()", "int stages()",
+        "int ofStage(int,int)" + PLACE + ARGUMENT, "int sent()", "int bit(int,int)" + PLACE + ARGUMENT,
+        "int told(int,int)" + PLACE + ARGUMENT, "int hurt()", "int errors()", "int distance(int)" + PLACE,
+        "int words(int,int)" + PLACE + ARGUMENT, "double rate()", "int errorsWith(int)" + PLACE,
+        "int weak()", "int breaks(int)" + ARGUMENT, "double meanErrors(int,int)" + ARGUMENT, "long digest()",
     };
 
     private final Due due = new Due();
@@ -22,6 +31,7 @@ public final class FaceTest {
         FaceTest test = new FaceTest();
         test.methods();
         test.otherMembers();
+        test.sizes();
         test.due.end();
     }
 
@@ -33,9 +43,7 @@ public final class FaceTest {
         for (Method method : SoundingLine.class.getDeclaredMethods()) {
             if (!Modifier.isPrivate(method.getModifiers())) {
                 due.is(Modifier.PUBLIC, () -> method.getModifiers());
-                String text = method.toString();
-                String call = text.contains(" throws ") ? text.substring(0, text.indexOf(" throws ")) : text;
-                got.add(call.replace("public ", "").replace("SoundingLine.", ""));
+                got.add(toldOf(method));
                 names.add(method.getName());
             }
         }
@@ -45,6 +53,18 @@ public final class FaceTest {
                 due.same("no private method of a public one's name", method.getName());
             }
         }
+    }
+
+    /** As it stands in the face, with its exceptions behind it. */
+    private static String toldOf(Method method) {
+        String text = method.toString();
+        int end = text.indexOf(" throws ");
+        String call = end < 0 ? text : text.substring(0, end);
+        StringBuilder told = new StringBuilder(call.replace("public ", "").replace("SoundingLine.", ""));
+        for (Class<?> exception : method.getExceptionTypes()) {
+            told.append(' ').append(exception.getSimpleName());
+        }
+        return told.toString();
     }
 
     private void otherMembers() {
@@ -60,5 +80,37 @@ public final class FaceTest {
         for (Class<?> inside : SoundingLine.class.getDeclaredClasses()) {
             due.is(true, () -> Modifier.isPrivate(inside.getModifiers()) && Modifier.isStatic(inside.getModifiers()));
         }
+    }
+    /** What ../shared/LANGUAGE.md says of classes, fields and parameters. */
+    private void sizes() {
+        due.about("the sizes");
+        List<Class<?>> all = new ArrayList<>(List.of(SoundingLine.class.getDeclaredClasses()));
+        all.add(SoundingLine.class);
+        due.is(true, () -> all.size() <= 12);
+        for (Class<?> each : all) {
+            due.is(0, () -> each.getDeclaredClasses().length * (each == SoundingLine.class ? 0 : 1));
+            due.is(true, () -> fieldsOf(each) <= 20);
+            due.is(true, () -> staticsAreFinal(each));
+            for (Method method : each.getDeclaredMethods()) {
+                due.is(true, () -> method.getParameterCount() <= 7);
+            }
+        }
+    }
+
+    private static int fieldsOf(Class<?> each) {
+        int many = 0;
+        for (Field field : each.getDeclaredFields()) {
+            many += Modifier.isStatic(field.getModifiers()) ? 0 : 1;
+        }
+        return many;
+    }
+
+    private static boolean staticsAreFinal(Class<?> each) {
+        for (Field field : each.getDeclaredFields()) {
+            if (Modifier.isStatic(field.getModifiers()) && !Modifier.isFinal(field.getModifiers())) {
+                return false;
+            }
+        }
+        return true;
     }
 }

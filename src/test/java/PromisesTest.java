@@ -19,36 +19,6 @@ public final class PromisesTest {
         test.due.end();
     }
 
-    private static SoundingLine of(int n, int many) {
-        SoundingLine x = new SoundingLine();
-        x.write(n, many);
-        return x;
-    }
-
-    private static String sentRow(SoundingLine x) {
-        return row(x, 0);
-    }
-
-    private static String comesRow(SoundingLine x) {
-        return row(x, 1);
-    }
-
-    private static String row(SoundingLine x, int what) {
-        StringBuilder text = new StringBuilder();
-        for (int place = 0; place < x.sent(); place++) {
-            text.append(x.bit(place, what));
-        }
-        return text.toString();
-    }
-
-    private static String decodedRow(SoundingLine x) {
-        StringBuilder text = new StringBuilder();
-        for (int place = 0; place < x.length(); place++) {
-            text.append(x.told(place, 1));
-        }
-        return text.toString();
-    }
-
     private void newObjectWriteAndClear() {
         due.about("promise 1");
         SoundingLine x = new SoundingLine();
@@ -64,7 +34,7 @@ public final class PromisesTest {
         SoundingLine w = new SoundingLine();
         due.is(3, () -> w.write(6, 3));
         due.is(4, () -> w.write(1, 1));
-        due.same("1101", sentRow(w));
+        due.same("1101", Lines.sentRow(w));
         due.is(20, () -> w.write(65535, 16));
         due.is(32, () -> w.write(0, 12));
         due.refusesState(() -> w.write(0, 1));
@@ -101,7 +71,7 @@ public final class PromisesTest {
 
     private void stagesArePut() {
         due.about("promise 4");
-        SoundingLine x = of(5, 3);
+        SoundingLine x = Lines.of(5, 3);
         due.is(6, () -> x.repeat(2));
         due.is(30, () -> x.repeat(5));
         due.refusesArgument(() -> x.repeat(1));
@@ -114,7 +84,7 @@ public final class PromisesTest {
         due.is(4, () -> x.stages());
 
         due.about("promise 5");
-        SoundingLine b = of(0, 8);
+        SoundingLine b = Lines.of(0, 8);
         due.is(16, () -> b.block(4, 8, 255, 0, 128, 1));
         due.is(160, () -> b.block(1, 10, 1023, -1, 5000, -7));
         due.refusesState(() -> b.block(1, 3, 7, 0, 0, 0));
@@ -132,30 +102,30 @@ public final class PromisesTest {
                 rows[wrong] = wrong % 2 == 0 ? 32 : -1;
                 int many = k;
                 due.is(wrong < k ? "throws.IllegalArgumentException" : "5",
-                    () -> of(0, 1).block(many, 5, rows[0], rows[1], rows[2], rows[3]));
+                    () -> Lines.of(0, 1).block(many, 5, rows[0], rows[1], rows[2], rows[3]));
             }
         }
-        due.refusesArgument(() -> of(0, 1).block(0, 5, 0, 0, 0, 0));
-        due.refusesArgument(() -> of(0, 1).block(5, 5, 0, 0, 0, 0));
-        due.refusesArgument(() -> of(0, 1).block(4, 3, 0, 0, 0, 0));
-        due.refusesArgument(() -> of(0, 1).block(1, 11, 0, 0, 0, 0));
-        SoundingLine block = of(27, 5);
+        due.refusesArgument(() -> Lines.of(0, 1).block(0, 5, 0, 0, 0, 0));
+        due.refusesArgument(() -> Lines.of(0, 1).block(5, 5, 0, 0, 0, 0));
+        due.refusesArgument(() -> Lines.of(0, 1).block(4, 3, 0, 0, 0, 0));
+        due.refusesArgument(() -> Lines.of(0, 1).block(1, 11, 0, 0, 0, 0));
+        SoundingLine block = Lines.of(27, 5);
         due.is(15, () -> block.block(2, 5, 22, 13, 0, 0));
         // 11, 01 and 10 with a 0 that fills it.
-        due.same("110110110110110", sentRow(block));
+        due.same("110110110110110", Lines.sentRow(block));
 
         due.about("promise 6");
-        SoundingLine check = of(45, 6);
+        SoundingLine check = Lines.of(45, 6);
         due.is(10, () -> check.check(19, 6));
-        due.same("1011011110", sentRow(check));
-        SoundingLine filled = of(3, 2);
+        due.same("1011011110", Lines.sentRow(check));
+        SoundingLine filled = Lines.of(3, 2);
         due.is(6, () -> filled.check(11, 3));
-        due.same("110001", sentRow(filled));
-        due.is(10, () -> of(0, 1).check(511, 2));
-        due.is(2, () -> of(0, 1).check(2, 1));
-        due.is(33, () -> of(0, 1).check(3, 32));
+        due.same("110001", Lines.sentRow(filled));
+        due.is(10, () -> Lines.of(0, 1).check(511, 2));
+        due.is(2, () -> Lines.of(0, 1).check(2, 1));
+        due.is(33, () -> Lines.of(0, 1).check(3, 32));
         due.is(288, () -> {
-            SoundingLine most = of(0, 16);
+            SoundingLine most = Lines.of(0, 16);
             most.write(65535, 16);
             return most.check(256, 1);
         });
@@ -166,12 +136,12 @@ public final class PromisesTest {
         due.refusesArgument(() -> check.check(3, 33));
 
         due.about("promise 7");
-        SoundingLine trail = of(11, 4);
+        SoundingLine trail = Lines.of(11, 4);
         due.is(12, () -> trail.trail(2, 7, 5, 0));
-        due.same("111000010111", sentRow(trail));
-        SoundingLine three = of(2, 2);
+        due.same("111000010111", Lines.sentRow(trail));
+        SoundingLine three = Lines.of(2, 2);
         due.is(9, () -> three.trail(1, 3, 1, 2));
-        due.same("101110000", sentRow(three));
+        due.same("101110000", Lines.sentRow(three));
         SoundingLine empty = new SoundingLine();
         due.is(0, () -> empty.trail(4, 31, 21, 0));
         due.is(10, () -> {
@@ -193,10 +163,10 @@ public final class PromisesTest {
         due.refusesState(() -> trail.trail(1, 1, 1, 0));
 
         due.about("promise 8");
-        SoundingLine weave = of(0x2A6, 10);
+        SoundingLine weave = Lines.of(0x2A6, 10);
         due.is(12, () -> weave.weave(3, 4));
         // 1010 1001 1000, read down its columns.
-        due.same("111000100010", sentRow(weave));
+        due.same("111000100010", Lines.sentRow(weave));
         due.is(100, () -> weave.weave(10, 10));
         due.is(100, () -> weave.weave(1, 1));
         due.refusesArgument(() -> weave.weave(0, 1));
@@ -209,62 +179,62 @@ public final class PromisesTest {
 
     private void drop() {
         due.about("promise 9");
-        SoundingLine x = of(2, 2);
+        SoundingLine x = Lines.of(2, 2);
         due.refusesState(() -> x.drop());
         x.repeat(2);
         x.weave(3, 3);
         due.is(1, () -> x.drop());
-        due.same("1100", sentRow(x));
+        due.same("1100", Lines.sentRow(x));
         due.is(0, () -> x.drop());
-        due.same("10", sentRow(x));
+        due.same("10", Lines.sentRow(x));
         due.refusesState(() -> x.drop());
         for (int i = 0; i < 4; i++) {
             x.weave(1, 1);
         }
         due.is(3, () -> x.drop());
         due.is(4, () -> x.repeat(2));
-        due.same("1100", sentRow(x));
+        due.same("1100", Lines.sentRow(x));
         x.mark(0);
         due.is(1, () -> x.errors());
-        due.same("0100", comesRow(x));
-        due.same("20", decodedRow(x));
+        due.same("0100", Lines.comesRow(x));
+        due.same("20", Lines.decodedRow(x));
         due.is(3, () -> x.drop());
-        due.same("00", comesRow(x));
-        due.same("00", decodedRow(x));
+        due.same("00", Lines.comesRow(x));
+        due.same("00", Lines.decodedRow(x));
     }
 
     private void channel() {
         due.about("promise 10");
-        SoundingLine x = of(0, 10);
+        SoundingLine x = Lines.of(0, 10);
         due.is(0, () -> x.channel(1, 500, 1, -9));
-        due.same("0010101111", comesRow(x));
+        due.same("0010101111", Lines.comesRow(x));
         due.is(1, () -> x.channel(1, 838, 1, 0));
         due.is(0, () -> x.bit(0, 1));
         due.is(1, () -> x.channel(1, 839, 1, 0));
         due.is(1, () -> x.bit(0, 1));
         due.is(1, () -> x.channel(1, 0, 1, 0));
-        due.same("0000000000", comesRow(x));
+        due.same("0000000000", Lines.comesRow(x));
         due.is(1, () -> x.channel(3, 0, 0, 0));
-        due.same("0000000000", comesRow(x));
+        due.same("0000000000", Lines.comesRow(x));
         due.is(3, () -> x.channel(3, 500, 1, Integer.MIN_VALUE));
-        due.same("0020202222", comesRow(x));
+        due.same("0020202222", Lines.comesRow(x));
         due.is(3, () -> x.channel(3, 1, 0, 0));
         // x / 65536 is 0 at first, with the seed 0.
         due.is(2, () -> x.bit(0, 1));
         due.is(3, () -> x.channel(2, 1, 2, 4));
-        due.same("0110011001", comesRow(x));
+        due.same("0110011001", Lines.comesRow(x));
         due.is(2, () -> x.channel(2, 3, 50, 50));
-        due.same("0001111111", comesRow(x));
+        due.same("0001111111", Lines.comesRow(x));
         due.is(2, () -> x.channel(2, 0, 1, 320));
-        due.same("1000000000", comesRow(x));
+        due.same("1000000000", Lines.comesRow(x));
         due.is(2, () -> x.channel(2, 320, 1, 1));
         due.is(0, () -> x.hurt());
         due.is(2, () -> x.channel(1, 1000, 1000000, 0));
-        due.same("1111111111", comesRow(x));
+        due.same("1111111111", Lines.comesRow(x));
         due.is(1, () -> x.channel(3, 1000, 0, 0));
-        due.same("2222222222", comesRow(x));
+        due.same("2222222222", Lines.comesRow(x));
         due.is(3, () -> x.channel(0, -1, 5000000, -1));
-        due.same("0000000000", comesRow(x));
+        due.same("0000000000", Lines.comesRow(x));
         due.refusesArgument(() -> x.channel(-1, 0, 0, 0));
         due.refusesArgument(() -> x.channel(4, 0, 0, 0));
         for (int i = 1; i <= 3; i += 2) {
@@ -285,30 +255,30 @@ public final class PromisesTest {
 
     private void mark() {
         due.about("promise 11");
-        SoundingLine x = of(5, 4);
+        SoundingLine x = Lines.of(5, 4);
         due.is(1, () -> x.mark(0));
         due.is(2, () -> x.mark(319));
         due.is(3, () -> x.mark(5));
-        due.same("1101", comesRow(x));
+        due.same("1101", Lines.comesRow(x));
         due.is(8, () -> x.repeat(2));
-        due.same("10110111", comesRow(x));
+        due.same("10110111", Lines.comesRow(x));
         due.is(2, () -> x.mark(0));
         due.is(1, () -> x.mark(319));
-        due.same("00110111", comesRow(x));
+        due.same("00110111", Lines.comesRow(x));
         due.refusesPlace(() -> x.mark(320));
         due.refusesPlace(() -> x.mark(-1));
         due.refusesPlace(() -> x.mark(Integer.MIN_VALUE));
         x.channel(3, 1000, 0, 0);
-        due.same("22222222", comesRow(x));
+        due.same("22222222", Lines.comesRow(x));
         x.channel(1, 1000, 0, 0);
-        due.same("11001000", comesRow(x));
+        due.same("11001000", Lines.comesRow(x));
         x.clear();
         due.is(0, () -> x.hurt());
         due.is(0, () -> x.mark(5));
     }
 
     private void askingForWhatIsSent() {
-        SoundingLine x = of(6, 3);
+        SoundingLine x = Lines.of(6, 3);
         due.about("promises 12, 13 and 15");
         due.is(3, () -> x.length());
         due.is(0, () -> x.stages());
@@ -332,7 +302,7 @@ public final class PromisesTest {
         due.refusesPlace(() -> x.ofStage(-1, 9));
         due.refusesArgument(() -> x.ofStage(0, -1));
         due.refusesArgument(() -> x.ofStage(0, 5));
-        SoundingLine kinds = of(0, 1);
+        SoundingLine kinds = Lines.of(0, 1);
         kinds.trail(1, 1, 1, 0);
         kinds.block(1, 1, 1, 0, 0, 0);
         kinds.check(2, 1);
@@ -343,8 +313,8 @@ public final class PromisesTest {
         due.about("promise 16");
         x.drop();
         x.mark(8);
-        due.same("111111000", sentRow(x));
-        due.same("111111001", comesRow(x));
+        due.same("111111000", Lines.sentRow(x));
+        due.same("111111001", Lines.comesRow(x));
         due.is(0, () -> x.bit(8, 0));
         due.is(1, () -> x.bit(8, 1));
         due.refusesPlace(() -> x.bit(9, 0));
@@ -369,7 +339,7 @@ public final class PromisesTest {
         due.is(9, () -> x.hurt());
         due.is(3, () -> x.errors());
         due.is(2, () -> x.told(2, 1));
-        SoundingLine bare = of(1, 2);
+        SoundingLine bare = Lines.of(1, 2);
         bare.mark(1);
         due.is(1, () -> bare.errors());
         due.is(0, () -> bare.told(1, 1));
@@ -377,94 +347,94 @@ public final class PromisesTest {
 
     private void decoding() {
         due.about("decoding REPEAT");
-        SoundingLine twice = of(2, 2);
+        SoundingLine twice = Lines.of(2, 2);
         twice.repeat(2);
         twice.mark(0);
-        due.same("20", decodedRow(twice));
+        due.same("20", Lines.decodedRow(twice));
         due.is(1, () -> twice.errors());
-        SoundingLine five = of(0, 2);
+        SoundingLine five = Lines.of(0, 2);
         five.repeat(5);
         five.channel(3, 500, 1, 0);
         // 00202 02222: what is left decides.
-        due.same("00", decodedRow(five));
+        due.same("00", Lines.decodedRow(five));
         five.mark(0);
-        due.same("00", decodedRow(five));
+        due.same("00", Lines.decodedRow(five));
         five.mark(1);
-        due.same("10", decodedRow(five));
+        due.same("10", Lines.decodedRow(five));
         five.mark(5);
-        due.same("11", decodedRow(five));
+        due.same("11", Lines.decodedRow(five));
 
         due.about("decoding BLOCK");
-        SoundingLine tie = of(1, 1);
+        SoundingLine tie = Lines.of(1, 1);
         tie.block(1, 2, 3, 0, 0, 0);
         tie.mark(0);
-        due.same("0", decodedRow(tie));
+        due.same("0", Lines.decodedRow(tie));
         tie.mark(0);
         tie.channel(3, 1000, 0, 0);
-        due.same("0", decodedRow(tie));
-        SoundingLine two = of(3, 2);
+        due.same("0", Lines.decodedRow(tie));
+        SoundingLine two = Lines.of(3, 2);
         two.block(2, 4, 14, 7, 0, 0);
-        due.same("1001", sentRow(two));
+        due.same("1001", Lines.sentRow(two));
         two.mark(3);
         // 1000 is 1 from 0000, and from 1001: the smaller number.
-        due.same("00", decodedRow(two));
+        due.same("00", Lines.decodedRow(two));
         two.mark(3);
         two.mark(1);
-        due.same("11", decodedRow(two));
+        due.same("11", Lines.decodedRow(two));
         two.mark(2);
         // 1111 is 1 from 0111, and from 1110.
-        due.same("01", decodedRow(two));
+        due.same("01", Lines.decodedRow(two));
 
         due.about("decoding CHECK");
-        SoundingLine check = of(5, 3);
+        SoundingLine check = Lines.of(5, 3);
         check.check(11, 2);
         due.is(10, () -> check.sent());
         check.mark(5);
-        due.same("100", decodedRow(check));
+        due.same("100", Lines.decodedRow(check));
         check.mark(5);
         check.channel(3, 1000, 0, 0);
-        due.same("222", decodedRow(check));
+        due.same("222", Lines.decodedRow(check));
         due.is(2, () -> check.ofStage(0, 4));
 
         due.about("decoding TRAIL");
-        SoundingLine trail = of(1, 1);
+        SoundingLine trail = Lines.of(1, 1);
         trail.trail(1, 2, 1, 0);
-        due.same("1001", sentRow(trail));
+        due.same("1001", Lines.sentRow(trail));
         trail.mark(0);
-        due.same("0", decodedRow(trail));
+        due.same("0", Lines.decodedRow(trail));
         trail.mark(0);
         trail.mark(3);
-        due.same("0", decodedRow(trail));
+        due.same("0", Lines.decodedRow(trail));
         trail.mark(3);
         trail.mark(1);
-        due.same("1", decodedRow(trail));
-        SoundingLine good = of(11, 4);
+        due.same("1", Lines.decodedRow(trail));
+        SoundingLine good = Lines.of(11, 4);
         good.trail(2, 7, 5, 0);
         good.mark(3);
         good.mark(8);
-        due.same("1011", decodedRow(good));
+        due.same("1011", Lines.decodedRow(good));
         good.channel(3, 1000, 0, 0);
-        due.same("0000", decodedRow(good));
+        due.same("0000", Lines.decodedRow(good));
 
         due.about("decoding WEAVE");
-        SoundingLine weave = of(0x2A6, 10);
+        SoundingLine weave = Lines.of(0x2A6, 10);
         weave.weave(3, 4);
         weave.mark(1);
-        due.same("1010000110", decodedRow(weave));
+        due.same("1010000110", Lines.decodedRow(weave));
 
         due.about("decoding stage by stage");
-        SoundingLine both = of(5, 3);
+        SoundingLine both = Lines.of(5, 3);
         both.check(11, 3);
         both.repeat(2);
         both.mark(2);
-        due.same("121", decodedRow(both));
+        due.same("121", Lines.decodedRow(both));
         due.is(1, () -> both.ofStage(0, 4));
         due.is(1, () -> both.errors());
     }
 
     private void mended() {
         due.about("promise 14, MENDED");
-        SoundingLine x = of(2, 2);
+        SoundingLine x = Lines.of(2, 2);
         x.repeat(3);
         x.mark(0);
         due.is(1, () -> x.ofStage(0, 3));
@@ -472,22 +442,22 @@ public final class PromisesTest {
         due.is(1, () -> x.ofStage(0, 3));
         x.mark(2);
         due.is(0, () -> x.ofStage(0, 3));
-        SoundingLine fill = of(1, 1);
+        SoundingLine fill = Lines.of(1, 1);
         fill.weave(2, 2);
         fill.mark(3);
         due.is(0, () -> fill.errors());
         due.is(1, () -> fill.hurt());
         due.is(1, () -> fill.ofStage(0, 3));
-        SoundingLine lost = of(0, 2);
+        SoundingLine lost = Lines.of(0, 2);
         lost.check(3, 2);
         lost.channel(3, 1000, 0, 0);
         due.is(3, () -> lost.ofStage(0, 3));
         due.is(1, () -> lost.ofStage(0, 4));
 
         due.about("promise 14, DAMAGED");
-        SoundingLine check = of(1, 1);
+        SoundingLine check = Lines.of(1, 1);
         check.check(3, 2);
-        due.same("101", sentRow(check));
+        due.same("101", Lines.sentRow(check));
         due.is(0, () -> check.ofStage(0, 4));
         check.mark(1);
         due.is(0, () -> check.errors());
@@ -500,13 +470,13 @@ public final class PromisesTest {
         check.mark(0);
         check.mark(2);
         due.is(1, () -> check.ofStage(0, 4));
-        SoundingLine blocks = of(0, 4);
+        SoundingLine blocks = Lines.of(0, 4);
         blocks.check(3, 1);
         blocks.channel(3, 500, 1, 0);
         // 00 20 20 22: a lost bit alone is damage, at the first place or in the rest.
         due.is(3, () -> blocks.ofStage(0, 4));
         blocks.channel(3, 500, 3, 0);
-        due.same("02220020", comesRow(blocks));
+        due.same("02220020", Lines.comesRow(blocks));
         due.is(3, () -> blocks.ofStage(0, 4));
     }
 
@@ -559,15 +529,15 @@ public final class PromisesTest {
 
         due.about("promise 22");
         due.is(0.0, () -> x.rate());
-        due.is(1.0, () -> of(0, 3).rate());
-        SoundingLine third = of(0, 2);
+        due.is(1.0, () -> Lines.of(0, 3).rate());
+        SoundingLine third = Lines.of(0, 2);
         third.repeat(3);
         due.is(1.0 / 3, () -> third.rate());
     }
 
     private void whatWouldBe() {
         due.about("promise 23");
-        SoundingLine x = of(2, 2);
+        SoundingLine x = Lines.of(2, 2);
         x.repeat(3);
         due.is(0, () -> x.errorsWith(0));
         x.mark(1);
@@ -588,7 +558,7 @@ public final class PromisesTest {
         due.is(2, () -> x.errorsWith(0));
         x.channel(0, 0, 0, 0);
         due.is(0, () -> new SoundingLine().weak());
-        due.is(5, () -> of(0, 5).weak());
+        due.is(5, () -> Lines.of(0, 5).weak());
 
         due.about("promise 25");
         due.is(2, () -> x.breaks(0));
@@ -602,11 +572,11 @@ public final class PromisesTest {
         due.refusesArgument(() -> x.breaks(-1));
         x.channel(1, 1000, 0, 0);
         due.is(2, () -> x.breaks(0));
-        due.is(1, () -> of(0, 3).breaks(2));
+        due.is(1, () -> Lines.of(0, 3).breaks(2));
         due.is(0, () -> new SoundingLine().breaks(0));
 
         due.about("promise 26");
-        SoundingLine noise = of(0, 10);
+        SoundingLine noise = Lines.of(0, 10);
         due.is(6.0, () -> noise.meanErrors(500, 1));
         due.is(0.0, () -> noise.meanErrors(0, 20));
         due.is(10.0, () -> noise.meanErrors(1000, 20));
@@ -625,14 +595,14 @@ public final class PromisesTest {
 
         due.about("promise 27");
         due.is(digestOf(0, 0, 0, 0, 0, 0, 0, 0), () -> new SoundingLine().digest());
-        due.is(digestOf(1, 0, 1, 0, 0, 1, 1, 1, 1, 1, 0, 1), () -> of(1, 1).digest());
-        SoundingLine block = of(1, 1);
+        due.is(digestOf(1, 0, 1, 0, 0, 1, 1, 1, 1, 1, 0, 1), () -> Lines.of(1, 1).digest());
+        SoundingLine block = Lines.of(1, 1);
         block.block(1, 3, 6, 0, 0, 0);
         block.mark(2);
         due.is(digestOf(1, 1, 3, 1, 0,
             1, 1, 3, 1, 0, 2, 1, 0, 1, 0, 0, 0, 0, 0, 0, 0, 0,
             1, 1, 1, 1, 1, 1, 0, 1, 1, 0, 2), () -> block.digest());
-        SoundingLine all = of(181, 8);
+        SoundingLine all = Lines.of(181, 8);
         due.is(digestOfAsks(all), () -> all.digest());
         all.mark(6);
         due.is(digestOfAsks(all), () -> all.digest());
@@ -678,7 +648,7 @@ public final class PromisesTest {
 
     private void refusedCallsChangeNothing() {
         due.about("a refused call");
-        SoundingLine x = of(43690, 16);
+        SoundingLine x = Lines.of(43690, 16);
         x.write(1, 16);
         x.repeat(3);
         x.trail(1, 3, 1, 2);
