@@ -533,35 +533,45 @@ public final class AsksTest {
 
     private void digestParts() {
         due.about("promise 27: each number, in order");
-        SoundingLine x = four();
-        due.is(digestOf(x, 58076, 31).longValue(), () -> x.digest());
-        SoundingLine y = sending320();
-        due.is(digestOf(y, 58076, 31).longValue(), () -> y.digest());
-        SoundingLine z = Lines.of("111");
-        z.block(2, 10, 1023, 513, 0, 0);
-        z.block(1, 2, 3, 0, 0, 0);
-        z.check(11, 5);
-        z.channel(3, 300, 5, 0);
-        due.is(digestOf(z, 58076, 31).longValue(), () -> z.digest());
+        due.is(digestOf(four()).longValue(), () -> four().digest());
+        due.is(digestOf(blocksAndCheck()).longValue(), () -> blocksAndCheck().digest());
+        due.is(digestOf(checked()).longValue(), () -> checked().digest());
         due.about("promise 27: eight numbers at least");
         due.is(58076L * 31 * 31 * 31 * 31 * 31 * 31 * 31 * 31, () -> new SoundingLine().digest());
+    }
+
+    private static SoundingLine blocksAndCheck() {
+        SoundingLine x = Lines.of("111");
+        x.block(2, 10, 1023, 513, 0, 0);
+        x.block(1, 2, 3, 0, 0, 0);
+        x.check(11, 5);
+        x.channel(3, 300, 5, 0);
+        return x;
+    }
+
+    private static SoundingLine checked() {
+        SoundingLine x = Lines.of("10".repeat(16));
+        x.check(7, 4);
+        x.trail(1, 3, 2, 0);
+        x.channel(1, 50, 3, 0);
+        return x;
     }
 
     private void digestWraps() {
         due.about("promise 27: wraps around as a 64-bit integer");
         SoundingLine x = Lines.of("1");
-        BigInteger whole = digestOf(x, 58076, 31);
+        BigInteger whole = digestOf(x);
         due.is(false, () -> whole.bitLength() < 64);
         due.is(whole.longValue(), () -> x.digest());
         // With no message and no stage it does not wrap yet.
-        BigInteger least = digestOf(new SoundingLine(), 58076, 31);
+        BigInteger least = digestOf(new SoundingLine());
         due.is(true, () -> least.bitLength() < 64);
         due.is(least.toString(), () -> new SoundingLine().digest());
     }
 
     /** The checksum as a whole number that never wraps. */
-    private static BigInteger digestOf(SoundingLine x, long start, long by) {
-        Sum d = new Sum(start, by);
+    private static BigInteger digestOf(SoundingLine x) {
+        Sum d = new Sum();
         d.add(x.length(), x.stages(), x.sent(), x.hurt(), x.errors());
         for (int stage = 0; stage < x.stages(); stage++) {
             for (int what = 0; what <= 4; what++) {
@@ -592,17 +602,11 @@ public final class AsksTest {
 
     /** A number that each number that is added to it moves on. */
     private static final class Sum {
-        private BigInteger sum;
-        private final BigInteger by;
-
-        Sum(long start, long by) {
-            sum = BigInteger.valueOf(start);
-            this.by = BigInteger.valueOf(by);
-        }
+        private BigInteger sum = BigInteger.valueOf(58076);
 
         void add(int... numbers) {
             for (int x : numbers) {
-                sum = sum.multiply(by).add(BigInteger.valueOf(x));
+                sum = sum.multiply(BigInteger.valueOf(31)).add(BigInteger.valueOf(x));
             }
         }
     }

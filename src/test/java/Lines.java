@@ -33,7 +33,8 @@ final class Lines {
 
     private static String row(SoundingLine x, int what) {
         StringBuilder text = new StringBuilder();
-        for (int place = 0; place < x.sent(); place++) {
+        int many = x.sent();
+        for (int place = 0; place < many; place++) {
             text.append(x.bit(place, what));
         }
         return text.toString();
@@ -49,7 +50,8 @@ final class Lines {
 
     private static String told(SoundingLine x, int what) {
         StringBuilder text = new StringBuilder();
-        for (int place = 0; place < x.length(); place++) {
+        int many = x.length();
+        for (int place = 0; place < many; place++) {
             text.append(x.told(place, what));
         }
         return text.toString();

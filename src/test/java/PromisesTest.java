@@ -609,11 +609,13 @@ public final class PromisesTest {
         all.repeat(3);
         all.mark(8);
         due.is(digestOfAsks(all), () -> all.digest());
-        all.check(11, 5);
-        all.weave(3, 4);
-        all.trail(2, 7, 5, 3);
-        all.channel(3, 100, 77, 0);
-        due.is(digestOfAsks(all), () -> all.digest());
+        SoundingLine trail = Lines.of(181, 8);
+        trail.repeat(2);
+        trail.check(11, 5);
+        trail.weave(3, 4);
+        trail.trail(2, 7, 5, 3);
+        trail.channel(3, 100, 77, 0);
+        due.is(digestOfAsks(trail), () -> trail.digest());
     }
 
     private static long digestOfAsks(SoundingLine x) {
@@ -627,10 +629,12 @@ public final class PromisesTest {
                 d = d * 31 + x.words(stage, ones);
             }
         }
-        for (int i = 0; i < 2 * x.length(); i++) {
+        int told = 2 * x.length();
+        for (int i = 0; i < told; i++) {
             d = d * 31 + x.told(i / 2, i % 2);
         }
-        for (int i = 0; i < 2 * x.sent(); i++) {
+        int bits = 2 * x.sent();
+        for (int i = 0; i < bits; i++) {
             d = d * 31 + x.bit(i / 2, i % 2);
         }
         d = d * 31 + x.breaks(0);

@@ -262,17 +262,21 @@ public final class TermsTest {
         for (int seed : new int[] {0, 1, 2, 77777, 999999, 1000000}) {
             for (int p : new int[] {0, 1, 500, 999, 1000}) {
                 due.about("term 2: NOISE and LOSS of " + p + " by the seed " + seed + ", over 320 bits");
-                SoundingLine x = repeated("01101001100101101001011001101001", 5);
-                x.repeat(2);
-                String sent = Lines.sentRow(x);
+                String sent = Lines.sentRow(sending320());
+                SoundingLine x = sending320();
                 x.channel(1, p, seed, 0);
                 due.same(hit(sent, p, seed, false), Lines.comesRow(x));
-                SoundingLine y = repeated("01101001100101101001011001101001", 5);
-                y.repeat(2);
+                SoundingLine y = sending320();
                 y.channel(3, p, seed, 0);
                 due.same(hit(sent, p, seed, true), Lines.comesRow(y));
             }
         }
+    }
+
+    private static SoundingLine sending320() {
+        SoundingLine x = repeated("01101001100101101001011001101001", 5);
+        x.repeat(2);
+        return x;
     }
 
     /** The document's x, as a whole number that never wraps. */
@@ -303,6 +307,15 @@ public final class TermsTest {
             x.channel(kind, 839, 1, 0);
             due.same(hit, Lines.comesRow(x));
         }
+        for (int seed = 0; seed <= 1000000; seed += 1234) {
+            int first = (int) ((seed * 1103515245L + 12345L) % 2147483648L / 65536 % 1000);
+            due.about("term 2: less than p, by the seed " + seed);
+            SoundingLine x = Lines.of("0");
+            x.channel(1, first, seed, 0);
+            due.same("0", Lines.comesRow(x));
+            x.channel(1, first + 1, seed, 0);
+            due.same("1", Lines.comesRow(x));
+        }
         due.about("term 2: 1 becomes 0, too");
         SoundingLine one = Lines.of("10");
         one.channel(1, 1000, 3, 0);
@@ -322,18 +335,11 @@ public final class TermsTest {
         burst("0000000000", 10, 50, 50);
         burst("0000000000", 320, 50, 50);
         burst("1111111111", 0, 50, 320);
-        SoundingLine most = repeated("0".repeat(32), 5);
-        most.repeat(2);
-        most.channel(2, 0, 50, 100);
-        due.same(("1".repeat(50) + "0".repeat(50)).repeat(3) + "1".repeat(20), Lines.comesRow(most));
-        most.channel(2, 319, 50, 50);
-        due.same("0".repeat(319) + "1", Lines.comesRow(most));
-        most.channel(2, 320, 50, 50);
-        due.is(0, () -> most.hurt());
-        most.channel(2, 0, 1, 319);
-        due.same("1" + "0".repeat(318) + "1", Lines.comesRow(most));
-        most.channel(2, 0, 1, 320);
-        due.is(1, () -> most.hurt());
+        burstOf320(("1".repeat(50) + "0".repeat(50)).repeat(3) + "1".repeat(20), 0, 50, 100);
+        burstOf320("0".repeat(319) + "1", 319, 50, 50);
+        burstOf320("0".repeat(320), 320, 50, 50);
+        burstOf320("1" + "0".repeat(318) + "1", 0, 1, 319);
+        burstOf320("1" + "0".repeat(319), 0, 1, 320);
         due.about("term 2: BURSTS turn, 1 to 0, too");
         SoundingLine ones = Lines.of("1100");
         ones.channel(2, 1, 2, 5);
@@ -342,6 +348,13 @@ public final class TermsTest {
 
     private void burst(String want, int from, int length, int apart) {
         SoundingLine x = Lines.holding(10);
+        x.channel(2, from, length, apart);
+        due.same(want, Lines.comesRow(x));
+    }
+
+    private void burstOf320(String want, int from, int length, int apart) {
+        SoundingLine x = repeated("0".repeat(32), 5);
+        x.repeat(2);
         x.channel(2, from, length, apart);
         due.same(want, Lines.comesRow(x));
     }
